@@ -394,10 +394,6 @@ public final class RecurrenceDesk {
             return 365 * years + leapDays + DAYS_BEFORE_MONTH[month - 1];
         }
 
-        static int firstOfYear(int year) {
-            return firstOfMonth(year, 1);
-        }
-
         static int lengthOfMonth(int year, int month) {
             if (month < 1 || month > MONTHS) {
                 return 0;
@@ -416,11 +412,11 @@ public final class RecurrenceDesk {
 
         private void findMonth() {
             year = FIRST_YEAR;
-            while (year < LAST_YEAR && firstOfYear(year + 1) <= day) {
+            while (year < LAST_YEAR && firstOfMonth(year + 1, 1) <= day) {
                 year++;
             }
-            yearFirst = firstOfYear(year);
-            yearLength = firstOfYear(year + 1) - yearFirst;
+            yearFirst = firstOfMonth(year, 1);
+            yearLength = firstOfMonth(year + 1, 1) - yearFirst;
             month = 1;
             while (month < MONTHS && firstOfMonth(year, month + 1) <= day) {
                 month++;
@@ -694,7 +690,7 @@ public final class RecurrenceDesk {
                 int month = start.monthNumber() + step;
                 return Date.firstOfMonth(FIRST_YEAR + month / Date.MONTHS, month % Date.MONTHS + 1);
             }
-            return Date.firstOfYear(start.year() + step);
+            return Date.firstOfMonth(start.year() + step, 1);
         }
 
         /** How many days the period has that begins with a day, those outside of all days counted too. */

@@ -16,6 +16,8 @@ final class BookTest {
         partsThatDoNotAgree();
         timeLines();
         unfolding();
+        earlierTextsLeaveNothing();
+        fullTexts();
         Check.finish();
     }
 
@@ -99,7 +101,7 @@ final class BookTest {
                 "20000431T0000", "20000001T0000", "20001301T0000", "20000100T0000", "20000132T0000",
                 "20000101T2400", "20000101T0060", "20000101T000", "20000101T00000", "2000101T0000",
                 "20000101t0000", "200001010000", "20000101T00:00", "20000101T0000Z", "2000-1-1T0000",
-                "20000101T-100", "", "T0000", "20000101T"}) {
+                "20000101T-100", "2000010:T0000", "20000101T1/00", "", "T0000", "20000101T"}) {
             noEvent(Check.text("DTSTART:" + time, LENGTH));
             noEvent(Check.text(START, LENGTH, "RDATE:" + time));
             noEvent(Check.text(START, LENGTH, "RRULE:FREQ=DAILY;UNTIL=" + time));
@@ -140,7 +142,7 @@ final class BookTest {
         for (String wrong : new String[] {"", "FREQ=", "FREQ=HOURLY", "FREQ=DAIL", "FREQ=DAILYS", "freq=DAILY",
                 "INTERVAL=2;FREQ=DAILY", "INTERVAL=2", "FREQ=DAILY;", "FREQ=DAILY;;COUNT=1", "FREQ=DAILY;COUNT",
                 "FREQ=DAILY;COUNT=", "FREQ=DAILY;COUNT=1;", "FREQ=DAILY,COUNT=1", "FREQ=DAILY;FREQ=DAILY",
-                "FREQ=DAILY;BYHOUR=1", "FREQ=DAILY;BYWEEKNO=1", "FREQ=DAILY;BYYEARDAY=1", ";FREQ=DAILY"}) {
+                "FREQ=DAILY;BYHOUR=1", "FREQ=DAILY;2", "FREQ=DAILY;MO", "FREQ=DAILY;BYWEEKNO=1", "FREQ=DAILY;BYYEARDAY=1", ";FREQ=DAILY"}) {
             noRule(wrong);
         }
         for (String twice : new String[] {"INTERVAL=1", "COUNT=1", "UNTIL=20000101T0000", "BYMONTH=1", "BYMONTHDAY=1",
@@ -156,7 +158,7 @@ final class BookTest {
             for (String good : new String[] {"1", "9", "10", "99"}) {
                 rule("FREQ=DAILY;" + part + good);
             }
-            for (String wrong : new String[] {"0", "100", "01", "-1", "+1", "1,2", "", "A", "4294967297"}) {
+            for (String wrong : new String[] {"0", "100", "01", "-1", "+1", "1,2", "1,", "", "A", "4294967297"}) {
                 noRule("FREQ=DAILY;" + part + wrong);
             }
         }
@@ -181,6 +183,8 @@ final class BookTest {
             }
             String eight = list[list.length - 1];
             noRule("FREQ=MONTHLY;" + list[0] + eight + "," + list[1]);
+            noRule("FREQ=MONTHLY;" + list[0] + eight + ",");
+            noRule("FREQ=MONTHLY;" + list[0] + eight + ",;INTERVAL=2");
             for (String wrong : new String[] {"", ",", "1,", ",1", "MO,", ",MO", "0", "-0", "00", "01", "-01", "+1",
                     "100", "-100", "1,,2", "MO,,TU", "--1", "-", "1 ", "1-", "1M", "XX", "0MO", "-0MO", "01MO", "+1MO",
                     "54MO", "-54MO", "-MO", "1-MO", "--1MO", "MO1", "mo", "1,0", "MO,0TU"}) {
@@ -224,6 +228,8 @@ final class BookTest {
         event(Check.text(START, LENGTH, "RDATE:" + time, "EXDATE:" + time, "RDATE:" + time));
         event(Check.text(START, LENGTH, "EXDATE:" + time, "EXDATE:" + time, "EXDATE:" + time));
         noEvent(Check.text(START, LENGTH, "RDATE:" + time, "EXDATE:" + time, "RDATE:" + time, "EXDATE:" + time));
+        noEvent(Check.text(START, LENGTH, "RDATE:" + six + ","));
+        noEvent(Check.text(START, LENGTH, "RDATE:" + six + ",EXDATE:" + time));
         noEvent(Check.text(START, LENGTH, "RDATE:"));
         noEvent(Check.text(START, LENGTH, "EXDATE:"));
         noEvent(Check.text(START, LENGTH, "RDATE:" + time + ","));
@@ -250,5 +256,58 @@ final class BookTest {
             RecurrenceDesk desk = new RecurrenceDesk();
             return Check.book(desk, 0, START, LENGTH, "RRULE:FREQ=DAILY;COUNT=1\n 2");
         });
+    }
+
+    /** A text is read to its own end, whatever longer text was booked before it. */
+    private static void earlierTextsLeaveNothing() {
+        String text = Check.text(START, LENGTH, "RRULE:FREQ=MONTHLY;COUNT=12;BYDAY=MO;WKST=SU", "EXDATE:20000102T0930");
+        for (int i = 1; i < text.length(); i++) {
+            String part = text.substring(0, i);
+            if (part.endsWith("\n")) {
+                continue;
+            }
+            RecurrenceDesk desk = new RecurrenceDesk();
+            Check.type(desk, text);
+            desk.book(0);
+            Check.type(desk, part);
+            Check.refused("no event: " + part, IllegalArgumentException.class, () -> desk.book(0));
+        }
+        RecurrenceDesk desk = new RecurrenceDesk();
+        Check.type(desk, Check.text(START, LENGTH) + " ");
+        desk.wipe();
+        Check.equal("a blank that is wiped", 1, () -> Check.book(desk, 0, START, LENGTH));
+    }
+
+    /** Texts that end with the last character there is room for, wherever that may fall in a rule. */
+    private static void fullTexts() {
+        String[] parts = {";BYDAY=-53MO,-53TU,-53WE,-53TH,-53FR,-53SA,-53SU,-53MO", ";WKST=MO", ";INTERVAL=99",
+            ";BYSETPOS=-99,-99,-99,-99,-99,-99,-99,-99", ";UNTIL=20000101T0930", ";BYMONTH=12,12,12,12,12,12,12,12"};
+        int full = 0;
+        for (int first = 0; first < parts.length; first++) {
+            for (int more = 0; more <= 16; more++) {
+                StringBuilder rule = new StringBuilder("RRULE:FREQ=MONTHLY;BYMONTHDAY=").append(monthDays(more));
+                for (int i = 0; i < parts.length; i++) {
+                    rule.append(parts[(first + i) % parts.length]);
+                }
+                String text = Check.text(START, LENGTH, rule.toString());
+                noEvent(text.substring(0, 240));
+                String fewer = Check.text(START, LENGTH, rule.toString().replace(parts[1] + parts[2], ""));
+                if (fewer.length() == 240) {
+                    full++;
+                    event(fewer);
+                }
+            }
+        }
+        int found = full;
+        Check.equal("a full text was tried", true, () -> found > 0);
+    }
+
+    /** Eight days of a month, with up to 16 characters more than they need. */
+    private static String monthDays(int more) {
+        StringBuilder days = new StringBuilder();
+        for (int i = 0; i < 8; i++) {
+            days.append(i > 0 ? "," : "").append(more > i + 8 ? "-" : "").append(more > i ? "11" : "1");
+        }
+        return days.toString();
     }
 }

@@ -108,6 +108,8 @@ final class EventsTest {
         Check.equal("busy(0, 60)", true, () -> desk.busy(0, 60));
         Check.equal("busy(0, 1500)", false, () -> desk.busy(0, 1500));
         Check.equal("stretches(0)", 1, () -> desk.stretches(0));
+        Check.equal("stretch(0, 1, 0)", Check.BAD, () -> desk.stretch(0, 1, 0));
+        Check.equal("stretch(0, 1, 1)", Check.BAD, () -> desk.stretch(0, 1, 1));
         desk.cancel(0, 0);
         Check.equal("busy(0, 60)", false, () -> desk.busy(0, 60));
         Check.equal("stretches(0)", 0, () -> desk.stretches(0));

@@ -14,6 +14,8 @@ final class RuleTest {
         countAndUntil();
         addedAndLeftOut();
         atMostForty();
+        everyMonth();
+        rulesOneAfterAnother();
         inZones();
         Check.finish();
     }
@@ -121,6 +123,7 @@ final class RuleTest {
         due("20000101T0000", "FREQ=YEARLY;BYMONTH=5,9;BYDAY=-1MO,1MO;COUNT=5", "20000101T0000", "20000501T0000",
                 "20000529T0000", "20000904T0000", "20000925T0000");
         due("20000101T0000", "FREQ=YEARLY;BYMONTH=5;BYDAY=20MO", "20000101T0000");
+        due("20000101T0000", "FREQ=YEARLY;BYDAY=9MO,-9TU;COUNT=3", "20000101T0000", "20000228T0000", "20001031T0000");
         due("20000101T0000", "FREQ=YEARLY;BYDAY=20MO;COUNT=2", "20000101T0000", "20000515T0000");
         due("20000101T0000", "FREQ=YEARLY;BYDAY=1MO;BYMONTHDAY=1;COUNT=3",
                 "20000101T0000", "20010101T0000", "20070101T0000");
@@ -143,6 +146,46 @@ final class RuleTest {
         due("20000105T0000", "FREQ=DAILY;BYDAY=MO;BYSETPOS=2", "20000105T0000");
         due("20000105T0000", "FREQ=MONTHLY;BYMONTH=1;BYMONTHDAY=7,7,8;BYSETPOS=2,2,2;COUNT=2",
                 "20000105T0000", "20000108T0000");
+    }
+
+    private static void everyMonth() {
+        for (int year : new int[] {2000, 2019}) {
+            List<String> ends = new ArrayList<>();
+            for (int month = 1; month <= 12; month++) {
+                int length = java.time.YearMonth.of(year, month).lengthOfMonth();
+                ends.add(String.format("%d%02d01T0000", year, month));
+                ends.add(String.format("%d%02d%02dT0000", year, month, length));
+            }
+            due(year + "0101T0000", "FREQ=MONTHLY;BYMONTHDAY=1,-1;COUNT=24", ends.toArray(new String[0]));
+        }
+        List<String> lastDays = new ArrayList<>();
+        lastDays.add("20000101T0000");
+        for (int year = 2000; year <= 2019; year++) {
+            lastDays.add(year + "1231T0000");
+        }
+        due("20000101T0000", "FREQ=DAILY;BYMONTH=12;BYMONTHDAY=31", lastDays.toArray(new String[0]));
+        due("20000101T0000", "FREQ=YEARLY;BYMONTH=12;BYMONTHDAY=31", lastDays.toArray(new String[0]));
+    }
+
+    /** What one rule said is forgotten with the next one. */
+    private static void rulesOneAfterAnother() {
+        String[] rules = {
+            "FREQ=YEARLY;INTERVAL=3;COUNT=9;BYMONTH=2,5;BYMONTHDAY=-1,3;BYDAY=MO,TU,WE,TH,FR,1SA,-1SA;BYSETPOS=1,2",
+            "FREQ=MONTHLY;UNTIL=20001231T0000;BYMONTHDAY=-2,4;BYMONTH=7;BYSETPOS=-1,1", "FREQ=MONTHLY;BYDAY=2SU,SA",
+            "FREQ=WEEKLY;INTERVAL=2;WKST=SU;BYDAY=MO,SU;BYMONTH=12", "FREQ=WEEKLY;INTERVAL=2;BYDAY=MO,SU",
+            "FREQ=MONTHLY;BYDAY=3MO", "FREQ=MONTHLY;BYDAY=TU;BYSETPOS=3", "FREQ=DAILY", "FREQ=WEEKLY", "FREQ=YEARLY"};
+        for (String before : rules) {
+            for (String behind : rules) {
+                String[] lines = {"DTSTART:20000107T0100", "DURATION:PT1M", "RRULE:" + behind};
+                Check.equal(before + " before " + behind, instancesOf(new RecurrenceDesk(), lines), () -> {
+                    RecurrenceDesk desk = new RecurrenceDesk();
+                    Check.book(desk, 0, "DTSTART:20070107T0100", "DURATION:PT2M", "RRULE:" + before,
+                            "RDATE:20000108T0100", "EXDATE:20000107T0100,20000109T0100");
+                    desk.cancel(0, 0);
+                    return instancesOf(desk, lines);
+                });
+            }
+        }
     }
 
     /** The first week has two days, the last one too. */
@@ -186,6 +229,12 @@ final class RuleTest {
         due(new String[] {start, length, "RDATE:20000106T1200,20000107T1200", "EXDATE:20000106T1200",
             "RDATE:20000106T1200"}, "20000105T0800", "20000107T1200");
         due(new String[] {start, length, "EXDATE:20000106T1200", "RDATE:20000106T1200"}, "20000105T0800");
+        due(new String[] {start, length,
+            "RDATE:20000112T0800,20000111T0800,20000110T0800,20000109T0800,20000108T0800,20000107T0800",
+            "RDATE:20000106T0800,20000104T0800,20000103T0800,20000102T0800,20000101T0800,20000101T0801",
+            "RDATE:20000113T0800"}, "20000101T0800", "20000101T0801", "20000102T0800", "20000103T0800",
+                "20000104T0800", "20000105T0800", "20000106T0800", "20000107T0800", "20000108T0800", "20000109T0800",
+                "20000110T0800", "20000111T0800", "20000112T0800", "20000113T0800");
     }
 
     private static void atMostForty() {
