@@ -21,28 +21,12 @@ final class BookTest {
         Check.finish();
     }
 
-    private static void event(String text) {
-        Check.equal("an event: " + text, true, () -> {
-            RecurrenceDesk desk = new RecurrenceDesk();
-            Check.type(desk, text);
-            return desk.book(0) >= 0 && desk.events(0) == 1 && desk.wipe() == 0;
-        });
-    }
-
-    private static void noEvent(String text) {
-        RecurrenceDesk desk = new RecurrenceDesk();
-        Check.type(desk, text);
-        Check.refused("no event: " + text, IllegalArgumentException.class, () -> desk.book(0));
-        Check.equal("text behind it", text.length(), desk::wipe);
-        Check.equal("events behind it", 0, () -> desk.events(0));
-    }
-
     private static void rule(String rule) {
-        event(Check.text(START, LENGTH, "RRULE:" + rule));
+        Check.event(Check.text(START, LENGTH, "RRULE:" + rule));
     }
 
     private static void noRule(String rule) {
-        noEvent(Check.text(START, LENGTH, "RRULE:" + rule));
+        Check.noEvent(Check.text(START, LENGTH, "RRULE:" + rule));
     }
 
     private static void throwsInOrder() {
@@ -69,66 +53,66 @@ final class BookTest {
     }
 
     private static void linesAndTheirOrder() {
-        event(Check.text(START, LENGTH));
-        event(Check.text(START, LENGTH, "RRULE:FREQ=DAILY", "EXDATE:20000101T0930"));
-        event(Check.text(START, LENGTH, "EXDATE:20000101T0930"));
-        noEvent("");
-        noEvent("\n");
-        noEvent(START + "\n");
-        noEvent(Check.text(LENGTH, START));
-        noEvent(Check.text(LENGTH));
-        noEvent(Check.text(START, "RRULE:FREQ=DAILY", LENGTH));
-        noEvent(Check.text(START, LENGTH, "EXDATE:20000101T0930", "RRULE:FREQ=DAILY"));
-        noEvent(Check.text(START, LENGTH, "RRULE:FREQ=DAILY", "RRULE:FREQ=DAILY"));
-        noEvent(Check.text(START, START, LENGTH));
-        noEvent(Check.text(START, LENGTH, LENGTH));
-        noEvent(Check.text(START, LENGTH, ""));
-        noEvent(Check.text("", START, LENGTH));
-        noEvent(Check.text(START, "", LENGTH));
-        noEvent(Check.text(START, LENGTH) + "x");
-        noEvent(Check.text(START + " ", LENGTH));
-        noEvent(Check.text(START, LENGTH + " "));
-        noEvent(Check.text("dtstart:20000101T0930", LENGTH));
-        noEvent(Check.text("DTSTART 20000101T0930", LENGTH));
+        Check.event(Check.text(START, LENGTH));
+        Check.event(Check.text(START, LENGTH, "RRULE:FREQ=DAILY", "EXDATE:20000101T0930"));
+        Check.event(Check.text(START, LENGTH, "EXDATE:20000101T0930"));
+        Check.noEvent("");
+        Check.noEvent("\n");
+        Check.noEvent(START + "\n");
+        Check.noEvent(Check.text(LENGTH, START));
+        Check.noEvent(Check.text(LENGTH));
+        Check.noEvent(Check.text(START, "RRULE:FREQ=DAILY", LENGTH));
+        Check.noEvent(Check.text(START, LENGTH, "EXDATE:20000101T0930", "RRULE:FREQ=DAILY"));
+        Check.noEvent(Check.text(START, LENGTH, "RRULE:FREQ=DAILY", "RRULE:FREQ=DAILY"));
+        Check.noEvent(Check.text(START, START, LENGTH));
+        Check.noEvent(Check.text(START, LENGTH, LENGTH));
+        Check.noEvent(Check.text(START, LENGTH, ""));
+        Check.noEvent(Check.text("", START, LENGTH));
+        Check.noEvent(Check.text(START, "", LENGTH));
+        Check.noEvent(Check.text(START, LENGTH) + "x");
+        Check.noEvent(Check.text(START + " ", LENGTH));
+        Check.noEvent(Check.text(START, LENGTH + " "));
+        Check.noEvent(Check.text("dtstart:20000101T0930", LENGTH));
+        Check.noEvent(Check.text("DTSTART 20000101T0930", LENGTH));
     }
 
     private static void times() {
         for (String time : new String[] {"20000101T0000", "20191231T2359", "20000229T1200", "20160229T1200",
                 "20040630T0959"}) {
-            event(Check.text("DTSTART:" + time, LENGTH));
+            Check.event(Check.text("DTSTART:" + time, LENGTH));
         }
         for (String time : new String[] {"19991231T0000", "20200101T0000", "20010229T0000", "20000230T0000",
                 "20000431T0000", "20000001T0000", "20001301T0000", "20000100T0000", "20000132T0000",
                 "20000101T2400", "20000101T0060", "20000101T000", "20000101T00000", "2000101T0000",
                 "20000101t0000", "200001010000", "20000101T00:00", "20000101T0000Z", "2000-1-1T0000",
                 "20000101T-100", "2000010:T0000", "20000101T1/00", "", "T0000", "20000101T"}) {
-            noEvent(Check.text("DTSTART:" + time, LENGTH));
-            noEvent(Check.text(START, LENGTH, "RDATE:" + time));
-            noEvent(Check.text(START, LENGTH, "RRULE:FREQ=DAILY;UNTIL=" + time));
+            Check.noEvent(Check.text("DTSTART:" + time, LENGTH));
+            Check.noEvent(Check.text(START, LENGTH, "RDATE:" + time));
+            Check.noEvent(Check.text(START, LENGTH, "RRULE:FREQ=DAILY;UNTIL=" + time));
         }
     }
 
     private static void durations() {
         for (String n : new String[] {"1", "9", "10", "999", "1440"}) {
-            event(Check.text(START, "DURATION:PT" + n + "M"));
+            Check.event(Check.text(START, "DURATION:PT" + n + "M"));
         }
         for (String n : new String[] {"0", "01", "1441", "14400", "99999999999", "4294967297", "-1", "+1", "",
                 "1.5", " 1", "1 "}) {
-            noEvent(Check.text(START, "DURATION:PT" + n + "M"));
+            Check.noEvent(Check.text(START, "DURATION:PT" + n + "M"));
         }
-        noEvent(Check.text(START, "DURATION:PT60"));
-        noEvent(Check.text(START, "DURATION:PT1H"));
-        noEvent(Check.text(START, "DURATION:60M"));
-        noEvent(Check.text(START, "DURATION:PT60MM"));
+        Check.noEvent(Check.text(START, "DURATION:PT60"));
+        Check.noEvent(Check.text(START, "DURATION:PT1H"));
+        Check.noEvent(Check.text(START, "DURATION:60M"));
+        Check.noEvent(Check.text(START, "DURATION:PT60MM"));
     }
 
     private static void zones() {
         for (int z = 0; z < 3; z++) {
-            event(Check.text("DTSTART;TZID=" + z + ":20000101T0930", LENGTH));
+            Check.event(Check.text("DTSTART;TZID=" + z + ":20000101T0930", LENGTH));
         }
         for (String head : new String[] {"DTSTART;TZID=3:", "DTSTART;TZID=-1:", "DTSTART;TZID=00:", "DTSTART;TZID=:",
                 "DTSTART;TZID=1", "DTSTART;:", "DTSTART;TZID=1;TZID=1:", "DTSTART;", "DTSTART", "DTSTART::"}) {
-            noEvent(Check.text(head + "20000101T0930", LENGTH));
+            Check.noEvent(Check.text(head + "20000101T0930", LENGTH));
         }
     }
 
@@ -221,37 +205,37 @@ final class BookTest {
     private static void timeLines() {
         String time = "20000101T0930";
         String six = String.join(",", time, time, time, time, time, time);
-        event(Check.text(START, LENGTH, "RDATE:" + six));
-        event(Check.text(START, LENGTH, "EXDATE:" + six));
-        noEvent(Check.text(START, LENGTH, "RDATE:" + six + "," + time));
-        noEvent(Check.text(START, LENGTH, "EXDATE:" + six + "," + time));
-        event(Check.text(START, LENGTH, "RDATE:" + time, "EXDATE:" + time, "RDATE:" + time));
-        event(Check.text(START, LENGTH, "EXDATE:" + time, "EXDATE:" + time, "EXDATE:" + time));
-        noEvent(Check.text(START, LENGTH, "RDATE:" + time, "EXDATE:" + time, "RDATE:" + time, "EXDATE:" + time));
-        noEvent(Check.text(START, LENGTH, "RDATE:" + six + ","));
-        noEvent(Check.text(START, LENGTH, "RDATE:" + six + ",EXDATE:" + time));
-        noEvent(Check.text(START, LENGTH, "RDATE:"));
-        noEvent(Check.text(START, LENGTH, "EXDATE:"));
-        noEvent(Check.text(START, LENGTH, "RDATE:" + time + ","));
-        noEvent(Check.text(START, LENGTH, "RDATE:," + time));
-        noEvent(Check.text(START, LENGTH, "RDATE:" + time + ";" + time));
-        noEvent(Check.text(START, LENGTH, "XDATE:" + time));
-        noEvent(Check.text(START, LENGTH, "RDATE:" + time, LENGTH));
+        Check.event(Check.text(START, LENGTH, "RDATE:" + six));
+        Check.event(Check.text(START, LENGTH, "EXDATE:" + six));
+        Check.noEvent(Check.text(START, LENGTH, "RDATE:" + six + "," + time));
+        Check.noEvent(Check.text(START, LENGTH, "EXDATE:" + six + "," + time));
+        Check.event(Check.text(START, LENGTH, "RDATE:" + time, "EXDATE:" + time, "RDATE:" + time));
+        Check.event(Check.text(START, LENGTH, "EXDATE:" + time, "EXDATE:" + time, "EXDATE:" + time));
+        Check.noEvent(Check.text(START, LENGTH, "RDATE:" + time, "EXDATE:" + time, "RDATE:" + time, "EXDATE:" + time));
+        Check.noEvent(Check.text(START, LENGTH, "RDATE:" + six + ","));
+        Check.noEvent(Check.text(START, LENGTH, "RDATE:" + six + ",EXDATE:" + time));
+        Check.noEvent(Check.text(START, LENGTH, "RDATE:"));
+        Check.noEvent(Check.text(START, LENGTH, "EXDATE:"));
+        Check.noEvent(Check.text(START, LENGTH, "RDATE:" + time + ","));
+        Check.noEvent(Check.text(START, LENGTH, "RDATE:," + time));
+        Check.noEvent(Check.text(START, LENGTH, "RDATE:" + time + ";" + time));
+        Check.noEvent(Check.text(START, LENGTH, "XDATE:" + time));
+        Check.noEvent(Check.text(START, LENGTH, "RDATE:" + time, LENGTH));
     }
 
     private static void unfolding() {
         String text = Check.text(START, LENGTH, "RRULE:FREQ=DAILY;COUNT=2");
         for (int i = 0; i <= text.length(); i++) {
-            event(text.substring(0, i) + "\n " + text.substring(i));
-            noEvent(text.substring(0, i) + "\n" + text.substring(i));
-            noEvent(text.substring(0, i) + " " + text.substring(i));
+            Check.event(text.substring(0, i) + "\n " + text.substring(i));
+            Check.noEvent(text.substring(0, i) + "\n" + text.substring(i));
+            Check.noEvent(text.substring(0, i) + " " + text.substring(i));
         }
-        event(text.replace("DURATION", "DUR\n \n \n ATION"));
-        noEvent(text.replace("DURATION", "DUR\n  ATION"));
-        noEvent(text.replace("DURATION", "DUR\n\n  ATION"));
-        noEvent(text.replace("DURATION", "DUR\n\n ATION"));
-        noEvent(text.replace("\nDURATION", "\n DURATION"));
-        noEvent(START + "\n" + LENGTH + "\n ");
+        Check.event(text.replace("DURATION", "DUR\n \n \n ATION"));
+        Check.noEvent(text.replace("DURATION", "DUR\n  ATION"));
+        Check.noEvent(text.replace("DURATION", "DUR\n\n  ATION"));
+        Check.noEvent(text.replace("DURATION", "DUR\n\n ATION"));
+        Check.noEvent(text.replace("\nDURATION", "\n DURATION"));
+        Check.noEvent(START + "\n" + LENGTH + "\n ");
         Check.equal("a folded number", 12, () -> {
             RecurrenceDesk desk = new RecurrenceDesk();
             return Check.book(desk, 0, START, LENGTH, "RRULE:FREQ=DAILY;COUNT=1\n 2");
@@ -290,11 +274,11 @@ final class BookTest {
                     rule.append(parts[(first + i) % parts.length]);
                 }
                 String text = Check.text(START, LENGTH, rule.toString());
-                noEvent(text.substring(0, 240));
+                Check.noEvent(text.substring(0, 240));
                 String fewer = Check.text(START, LENGTH, rule.toString().replace(parts[1] + parts[2], ""));
                 if (fewer.length() == 240) {
                     full++;
-                    event(fewer);
+                    Check.event(fewer);
                 }
             }
         }

@@ -1,3 +1,5 @@
+import java.util.ArrayList;
+import java.util.List;
 import java.util.Objects;
 
 /** What the tests share: comparing, typing texts, and ending with the right exit code. */
@@ -67,6 +69,45 @@ final class Check {
             text.append(line).append('\n');
         }
         return text.toString();
+    }
+
+    /** The text is an event, and booking it uses it up. */
+    static void event(String text) {
+        equal("an event: " + text, true, () -> {
+            RecurrenceDesk desk = new RecurrenceDesk();
+            type(desk, text);
+            return desk.book(0) >= 0 && desk.events(0) == 1 && desk.wipe() == 0;
+        });
+    }
+
+    /** The text is refused, and stays. */
+    static void noEvent(String text) {
+        RecurrenceDesk desk = new RecurrenceDesk();
+        type(desk, text);
+        refused("no event: " + text, IllegalArgumentException.class, () -> desk.book(0));
+        equal("text behind it", text.length(), desk::wipe);
+        equal("events behind it", 0, () -> desk.events(0));
+    }
+
+    /** Books an event without a zone and compares all its instances with times written as in a text. */
+    static void due(String[] lines, String... times) {
+        List<Integer> want = new ArrayList<>();
+        for (String time : times) {
+            want.add(minute(time));
+        }
+        equal(String.join(" ", lines), want, () -> instancesOf(new RecurrenceDesk(), lines));
+    }
+
+    /** Books an event as person 0's first one: all its instances. */
+    static List<Integer> instancesOf(RecurrenceDesk desk, String... lines) {
+        int size = book(desk, 0, lines);
+        List<Integer> got = new ArrayList<>();
+        for (int i = 0; i < desk.instances(0, 0); i++) {
+            got.add(desk.instance(0, 0, i));
+        }
+        equal("what book answered", got.size(), () -> size);
+        equal("the instance behind the last", BAD, () -> desk.instance(0, 0, size));
+        return got;
     }
 
     /** A minute written as in a text, e.g. 20000131T2330. */

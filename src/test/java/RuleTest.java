@@ -26,22 +26,7 @@ final class RuleTest {
     }
 
     private static void due(String[] lines, String... times) {
-        List<Integer> want = new ArrayList<>();
-        for (String time : times) {
-            want.add(Check.minute(time));
-        }
-        Check.equal(String.join(" ", lines), want, () -> instancesOf(new RecurrenceDesk(), lines));
-    }
-
-    private static List<Integer> instancesOf(RecurrenceDesk desk, String... lines) {
-        int size = Check.book(desk, 0, lines);
-        List<Integer> got = new ArrayList<>();
-        for (int i = 0; i < desk.instances(0, 0); i++) {
-            got.add(desk.instance(0, 0, i));
-        }
-        Check.equal("what book answered", got.size(), () -> size);
-        Check.equal("the instance behind the last", Check.BAD, () -> desk.instance(0, 0, size));
-        return got;
+        Check.due(lines, times);
     }
 
     private static void daily() {
@@ -181,12 +166,12 @@ final class RuleTest {
         for (String before : rules) {
             for (String behind : rules) {
                 String[] lines = {"DTSTART:20000107T0100", "DURATION:PT1M", "RRULE:" + behind};
-                Check.equal(before + " before " + behind, instancesOf(new RecurrenceDesk(), lines), () -> {
+                Check.equal(before + " before " + behind, Check.instancesOf(new RecurrenceDesk(), lines), () -> {
                     RecurrenceDesk desk = new RecurrenceDesk();
                     Check.book(desk, 0, "DTSTART:20070107T0100", "DURATION:PT2M", "RRULE:" + before,
                             "RDATE:20000108T0100", "EXDATE:20000107T0100,20000109T0100");
                     desk.cancel(0, 0);
-                    return instancesOf(desk, lines);
+                    return Check.instancesOf(desk, lines);
                 });
             }
         }
@@ -276,7 +261,7 @@ final class RuleTest {
         List<Integer> want = List.of(
                 Check.minute("20000102T0230"), Check.minute("20000103T0230"), Check.minute("20000104T0130"),
                 Check.minute("20000105T0230"), Check.minute("20000106T0230"));
-        Check.equal("in a zone", want, () -> instancesOf(desk, "DTSTART;TZID=1:20000102T0230", "DURATION:PT9M",
+        Check.equal("in a zone", want, () -> Check.instancesOf(desk, "DTSTART;TZID=1:20000102T0230", "DURATION:PT9M",
                 "RRULE:FREQ=DAILY;UNTIL=20000106T0230"));
         desk.change(1, Check.minute("20000105T1200"), -60);
         Check.equal("a change behind the booking", want.get(4), () -> desk.instance(0, 0, 4));
@@ -294,7 +279,7 @@ final class RuleTest {
         RecurrenceDesk desk = new RecurrenceDesk();
         desk.change(0, 1000, 60);
         Check.equal("order and doubles stay", List.of(990, 1030, 1059, 1000, 1030),
-                () -> instancesOf(desk, "DTSTART;TZID=0:20000101T1630", "DURATION:PT1M",
+                () -> Check.instancesOf(desk, "DTSTART;TZID=0:20000101T1630", "DURATION:PT1M",
                         "RDATE:20000101T1710,20000101T1739,20000101T1740,20000101T1810"));
         Check.equal("stretches", 4, () -> desk.stretches(0));
     }
