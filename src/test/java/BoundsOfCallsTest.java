@@ -29,11 +29,13 @@ final class BoundsOfCallsTest {
         busyAtMinutes();
         stretchesOfPeople();
         stretchesOfNobodyBusy();
+        stretchesOfAFullPerson();
         stretchOfPeopleAndEnds();
         slotOfPeople();
         slotFromAndTo();
         slotOfLengths();
         slotWithNoRoom();
+        slotOfPeopleInTurn();
         Check.finish();
     }
 
@@ -283,7 +285,13 @@ final class BoundsOfCallsTest {
                 Check.equal("what stands at " + at, firstOf(event, at), () -> desk.instance(2, at, 0));
             }
             Check.equal("what stood last", Check.BAD, () -> desk.instance(2, 3, 0));
+            Check.equal("stretches(2)", 3, () -> desk.stretches(2));
+            for (int i = 0; i < 3; i++) {
+                int at = i;
+                Check.equal("stretch " + at, firstOf(event, at), () -> desk.stretch(2, at, 0));
+            }
             Check.equal("room for another one", 1, () -> desk.book(2));
+            Check.equal("what stands before it", firstOf(event, 2), () -> desk.instance(2, 2, 0));
             Check.equal("it stands last", Check.minute("20000103T0100"), () -> desk.instance(2, 3, 0));
             for (int left = 3; left >= 0; left--) {
                 Check.equal("cancel(2, 0)", left, () -> desk.cancel(2, 0));
@@ -426,6 +434,26 @@ final class BoundsOfCallsTest {
         Check.equal("the first one behind all", 31, () -> desk.stretch(0, 0, 1));
     }
 
+    /** Promises 12 and 13: as many stretches as there can be, in their order, whichever event came first. */
+    private static void stretchesOfAFullPerson() {
+        RecurrenceDesk desk = new RecurrenceDesk();
+        for (int hour : new int[] {2, 0, 3, 1}) {
+            Check.book(desk, 3, "DTSTART:20000101T0" + hour + "00", "DURATION:PT59M", "RRULE:FREQ=DAILY");
+        }
+        Check.equal("stretches(3)", 160, () -> desk.stretches(3));
+        for (int i = 0; i < 160; i++) {
+            int at = i;
+            int first = at / 4 * 1440 + at % 4 * 60;
+            Check.equal("the first minute of " + at, first, () -> desk.stretch(3, at, 0));
+            Check.equal("the first one behind " + at, first + 59, () -> desk.stretch(3, at, 1));
+        }
+        Check.equal("the stretch behind the last", Check.BAD, () -> desk.stretch(3, 160, 0));
+        Check.equal("cancel(3, 1)", 3, () -> desk.cancel(3, 1));
+        Check.equal("stretches(3)", 120, () -> desk.stretches(3));
+        Check.equal("the first one left", 60, () -> desk.stretch(3, 0, 0));
+        Check.equal("the stretch behind the last", Check.BAD, () -> desk.stretch(3, 120, 1));
+    }
+
     /** Promise 13: BAD when there is none, or end is neither. */
     private static void stretchOfPeopleAndEnds() {
         equal("stretch(0, 0, 0)", 1440, Bounds::used, desk -> desk.stretch(0, 0, 0));
@@ -492,5 +520,38 @@ final class BoundsOfCallsTest {
                 desk -> desk.slot(1, 1431, 1440, 10));
         Bounds.refused("busy all the time", Bounds.NO_SUCH_ELEMENT, Bounds::used,
                 desk -> desk.slot(1, 1440, 1500, 1));
+        Bounds.refused("busy at the only minute", Bounds.NO_SUCH_ELEMENT, Bounds::used,
+                desk -> desk.slot(1, 1440, 1441, 1));
+        Bounds.refused("busy at the last one of a length", Bounds.NO_SUCH_ELEMENT, Bounds::used,
+                desk -> desk.slot(1, 1, 1441, 1440));
+        equal("free up to the first busy one", 0, Bounds::used, desk -> desk.slot(1, 0, 1440, 1440));
+    }
+
+    /** Promise 14: none of some people is busy: those p for which 2^p is in people. */
+    private static void slotOfPeopleInTurn() {
+        // Each one begins when the next higher one ends, so that every round of looking finds one of them.
+        Bounds.Made turns = () -> {
+            RecurrenceDesk desk = new RecurrenceDesk();
+            for (int person = 0; person < 4; person++) {
+                Check.book(desk, person, "DTSTART:20000101T0" + (3 - person) + "00", "DURATION:PT60M");
+            }
+            return desk;
+        };
+        for (int people = 0; people < 16; people++) {
+            int some = people;
+            int free = 0;
+            while ((people << free & 8) != 0) {
+                free++;
+            }
+            int want = 60 * free;
+            equal("slot of " + some, want, turns, desk -> desk.slot(some, 0, want + 60, 60));
+            Bounds.refused("slot of " + some + ", a minute too few", Bounds.NO_SUCH_ELEMENT, turns,
+                    desk -> desk.slot(some, 0, want, 1));
+            Bounds.refused("slot of " + some + " and of nobody", Bounds.ILLEGAL_ARGUMENT, turns,
+                    desk -> desk.slot(some + 16, 0, LAST, 1));
+        }
+        equal("slot behind all", 240, turns, desk -> desk.slot(15, 0, LAST, 1440));
+        equal("slot before all", 0, turns, desk -> desk.slot(7, 0, 60, 60));
+        equal("too long to be before all", 240, turns, desk -> desk.slot(7, 0, LAST, 61));
     }
 }

@@ -99,6 +99,8 @@ final class BoundsOfRulesTest {
             due("20191231T2359", "FREQ=" + frequency + ";COUNT=99", "20191231T2359");
             due("20191231T2358", "FREQ=" + frequency + ";UNTIL=20191231T2359", "20191231T2358");
         }
+        due(time(0), "FREQ=DAILY;BYMONTH=12;BYMONTHDAY=31;BYDAY=TU", time(0), "20021231T0000", "20131231T0000",
+                time(7304));
         due(time(7303), "FREQ=DAILY", time(7303), time(7304));
         due(time(7297), "FREQ=WEEKLY", time(7297), time(7304));
         due(time(7298), "FREQ=WEEKLY", time(7298));
@@ -269,6 +271,9 @@ final class BoundsOfRulesTest {
                 "20000110T0000");
         due("20000101T0000", "FREQ=DAILY;BYDAY=MO;BYSETPOS=-1;COUNT=3", "20000101T0000", "20000103T0000",
                 "20000110T0000");
+        // All the days of a year, be it a leap year or not.
+        due("20000101T0000", "FREQ=YEARLY;" + ALL_WEEKDAYS + ";BYSETPOS=-1;COUNT=3", "20000101T0000", "20001231T0000",
+                "20011231T0000");
         // Days before the start have their positions too.
         due("20000112T0000", "FREQ=MONTHLY;BYDAY=MO;BYSETPOS=2,3;COUNT=2", "20000112T0000", "20000117T0000");
     }

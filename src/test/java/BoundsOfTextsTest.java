@@ -16,6 +16,8 @@ final class BoundsOfTextsTest {
         linesAreUnfolded();
         foldsAtTheEnds();
         eachLineHasItsEnd();
+        textsCutAnywhere();
+        wrongPiecesAreNotPassedOver();
         linesInTheirOrder();
         zones();
         durations();
@@ -112,6 +114,15 @@ final class BoundsOfTextsTest {
         Check.noEvent("9".repeat(240));
         Check.noEvent("DTSTART:" + "0".repeat(232));
         Check.noEvent(START + "\nDURATION:PT" + "9".repeat(205) + "M\n");
+        String head = Check.text(START, LENGTH);
+        for (String piece : new String[] {"RRULE:FREQ=MONTHLY;BYMONTH=", "RRULE:FREQ=MONTHLY;BYMONTHDAY=-",
+            "RRULE:FREQ=MONTHLY;BYDAY=-", "RRULE:FREQ=MONTHLY;BYDAY=", "RRULE:FREQ=MONTHLY;BYMONTH=1;BYSETPOS=",
+            "RDATE:2000", "EXDATE:20000101T", "RRULE:FREQ=MONTHLY;COUNT=", "RRULE:FREQ=MONTHLY;WKST=", "DURATION:PT"}) {
+            // What is being read has no end before the last place of all.
+            for (char filler : new char[] {'1', '-', 'M', ',', '0'}) {
+                Check.noEvent(head + piece + String.valueOf(filler).repeat(240 - head.length() - piece.length()));
+            }
+        }
         RecurrenceDesk desk = new RecurrenceDesk();
         Check.type(desk, text);
         Check.equal("a character more", Check.BAD, () -> desk.type('\n', 1));
@@ -171,6 +182,53 @@ final class BoundsOfTextsTest {
                 Check.noEvent(text.substring(0, at) + "\nx\n" + text.substring(at + 1));
             }
         }
+    }
+
+    /** A text that ends too early is no event, wherever it ends, and whatever was booked before it. */
+    private static void textsCutAnywhere() {
+        for (String rule : new String[] {"FREQ=WEEKLY;COUNT=12;BYDAY=MO,TU;WKST=SU", "FREQ=YEARLY;BYMONTHDAY=-11,30",
+            "FREQ=MONTHLY;BYDAY=-11MO;BYSETPOS=-11", "FREQ=DAILY;UNTIL=20000101T0000;BYMONTH=11,12;INTERVAL=12"}) {
+            String text = Check.text("DTSTART;TZID=1:20000101T0930", LENGTH, "RRULE:" + rule, "RDATE:" + TIME,
+                    "EXDATE:" + TIME + "," + TIME);
+            for (int size = 0; size <= text.length(); size++) {
+                String cut = text.substring(0, size);
+                boolean whole = cut.endsWith("\n") && cut.contains(LENGTH);
+                event(cut, whole);
+                Check.equal("behind a longer one: " + cut, whole ? "" : Bounds.ILLEGAL_ARGUMENT, () -> {
+                    RecurrenceDesk desk = new RecurrenceDesk();
+                    Check.type(desk, text);
+                    desk.book(0);
+                    Check.type(desk, cut);
+                    desk.book(0);
+                    return "";
+                });
+            }
+        }
+    }
+
+    /** What cannot be read ends the reading: nothing behind it makes an event of it. */
+    private static void wrongPiecesAreNotPassedOver() {
+        String event = Check.text(START, LENGTH);
+        Check.noEvent("DTSTART" + Check.text(LENGTH));
+        Check.noEvent("DTSTART:" + Check.text(LENGTH));
+        Check.noEvent("DTSTART;TZID=" + Check.text(LENGTH));
+        Check.noEvent("DTSTART;TZID=3" + Check.text(LENGTH));
+        Check.noEvent("DTSTART;TZID=1" + Check.text(LENGTH));
+        Check.noEvent("DTSTART:20000101T2400" + Check.text(LENGTH));
+        Check.noEvent(Check.text(START) + "DURATION:PT");
+        Check.noEvent(Check.text(START) + "DURATION:PT0");
+        Check.noEvent(Check.text(START) + "DURATION:PT1441");
+        Check.noEvent(Check.text(START) + "RRULE:FREQ=DAILY\n");
+        Check.noEvent(event + "RRULE:");
+        Check.noEvent(event + "RRULE:RDATE:" + TIME + "\n");
+        Check.noEvent(event + "RRULE:FREQ=DAILY;COUNT=0");
+        Check.noEvent(event + "RRULE:FREQ=DAILY;BYDAY=MORDATE:" + TIME + "\n");
+        Check.noEvent(event + "RDATE:");
+        Check.noEvent(event + "RDATE:20000101T2400");
+        Check.noEvent(event + "RDATE:EXDATE:" + TIME + "\n");
+        Check.noEvent(event + "RDATE:20000101T2400EXDATE:" + TIME + "\n");
+        Check.noEvent(event + "RDATE:" + items(TIME, 6) + ",");
+        Check.noEvent(event + "RDATE:" + items(TIME, 6) + ",EXDATE:" + TIME + "\n");
     }
 
     /** In this order. */
